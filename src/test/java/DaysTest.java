@@ -105,15 +105,20 @@ public final class DaysTest {
     private static void lastDay() {
         Replen x = oneLine(5, 1, 9999, 0, 1000);
         x.mark(0, 999);
-        for (int nights = 0; nights < 999; nights++) {
+        for (int nights = 0; nights < 998; nights++) {
             x.night();
         }
+        x.demand(0, 0, 99);
+        long units = x.units();
+        checks.same("12 packs of the last night", x.night() > 0, true);
+        checks.same("24 behind the last day", x.nextArrival(0, 0), 1004);
+        checks.same("33 behind the last day", x.units(), units);
         checks.same("13 last day", x.today(), 999);
         checks.fails("12 last day", IllegalStateException.class, () -> x.night());
         checks.same("13 stays", x.today(), 999);
         checks.same("9 last day", x.mark(0, 999), true);
         checks.fails("9 before last day", IllegalArgumentException.class, () -> x.mark(0, 998));
-        checks.same("18 last day", x.forecast(0, 0, 1099), x.level(0, 0));
+        checks.same("18 last day", x.forecast(0, 0, 1099), x.level(0, 0) * x.season(0, 0, 0) / 1000);
         checks.same("16 last day", x.levelByDays(0, 0), x.level(0, 0));
         checks.same("22 last day", x.stockByJournal(0, 0), x.stock(0, 0));
         checks.same("30 last day", x.centreByJournal(0), x.centre(0));

@@ -136,6 +136,13 @@ public final class ForecastsTest {
         x.night();
         checks.same("17 110", x.season(0, 0, 4), 110);
 
+        Replen down = oneLine(0, 5000);
+        down.setRates(0, 3);
+        for (int nights = 0; nights < 8; nights++) {
+            down.night();
+        }
+        checks.same("17 970 less 29.1 is 940", down.season(0, 0, 0), 940);
+
         Replen small = oneLine(0, 1);
         small.setRates(0, 100);
         for (int times = 0; times < 10; times++) {

@@ -205,6 +205,7 @@ public final class OrdersTest {
         both(x, 1, 2);
         checks.same("27 other item", x.share(1, 1), 4);
         checks.same("28 other item", x.shareByPacks(1, 1), 4);
+        checks.same("28 first item again", x.shareByPacks(1, 0), 2);
         checks.same("27 changes nothing", x.centre(0), 10);
         checks.same("28 changes nothing", x.onWay(0, 0), 0);
     }
